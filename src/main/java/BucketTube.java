@@ -232,7 +232,7 @@ public final class BucketTube {
         if (pressure < FLAT) {
             return 0;
         }
-        boolean steady = tube.leaksAlikeEachMinute();
+        boolean steady = tube.leaksAlikeEachMinute(holes);
         for (int i = 0; i < MINUTES_LOOKED; i++) {
             int gone = tube.goneBy(holes, pressure, state.minutes + i, load);
             if (gone == 0 && steady) {
@@ -426,12 +426,14 @@ public final class BucketTube {
         }
     }
 
-    /** SECONDS and HOLE of what a seed finds as one number (see partOfFind), or NONE; each 0 seeks, else it sweeps. */
+    /** SECONDS and HOLE that a seed finds, as one number for partOfFind(), or NONE; it sweeps, unless each is 0. */
     private int findBy(int seed, int holes, int each) {
         if (holes == 0) {
             return NONE;
         }
-        setOut();
+        if (each == 0) {
+            setOut();
+        }
         int grown = seed;
         for (int second = 0; second < SECONDS_MOST; second++) {
             int inch = each == 0 ? route.inchIn(second) : tube.sweptInch(second, each);
@@ -583,7 +585,7 @@ public final class BucketTube {
             if (!tube.lasts(holes, each, state.minutes + i * each)) {
                 return i;
             }
-            if (tube.leaksAlikeEachMinute()) {
+            if (tube.leaksAlikeEachMinute(holes)) {
                 return RIDES_MOST;
             }
         }
@@ -1048,8 +1050,8 @@ public final class BucketTube {
             return Math.min(apart, inches() - apart);
         }
 
-        boolean leaksAlikeEachMinute() {
-            return !leakRule.asks(Rule.MINUTE);
+        boolean leaksAlikeEachMinute(int set) {
+            return set == 0 || !leakRule.asks(Rule.MINUTE);
         }
 
         /** All by one pressure, though the holes leak in a row: none takes air from another one. */
