@@ -1270,7 +1270,7 @@ public final class BucketTube {
 
         // Steps from 0 on are NUMBERS (9999 at most), those from here on VALUES.
         private static final int FIRST_VALUE = 10000;
-        // Each EXPR may keep five numbers waiting (for or, and, a test, a sum, a product), and six stand in one another.
+        // Each EXPR keeps five numbers waiting at most (or, and, test, sum, product), and six stand in one another.
         private static final int STACK_MOST = 40;
 
         private final int[] steps = new int[TEXT_MOST];

@@ -169,6 +169,11 @@ public final class PromiseTest {
         fault(2, 6, "noise 0;");
         fault(2, 6, "noise 100;");
         fault(2, 9, "pressure 101;");
+        fault(0, -1, "pressure 1;mark 0;");
+        fault(1, 0, "gand 3;");
+        fault(1, 0, "hans 3;");
+        fault(1, 0, "han 3;");
+        fault(1, 6, "cause chorn 1;");
         fault(2, 5, "mark 48;");
         fault(2, 13, "tube 12;mark 12;");
         fault(0, -1, "tube 84;mark 83;hole 83 left 1;");
@@ -208,6 +213,7 @@ public final class PromiseTest {
         fault(2, 4, "try 100 1;");
         fault(2, 6, "try 9 100;");
         fault(1, 5, "try 9;");
+        fault(2, 6, "rider 40 1 1 flat;");
         fault(2, 8, "rider 1 40 1 flat;");
         fault(2, 10, "rider 1 1 24 flat;");
         fault(0, -1, "rider 39 0 23 well;rider 0 39 0 flat;");
@@ -619,6 +625,24 @@ public final class PromiseTest {
         Due.due("17 at so many inches", 0, inches);
     }
 
+    /** A seed whose DRAW of that number is the first one of 99. */
+    private static int seedShownAt(int number) {
+        for (int first = 0; first < 10000000; first++) {
+            int seed = first;
+            int draws = 0;
+            int drawn;
+            do {
+                seed = seed * 1103515245 + 12345;
+                drawn = (seed >>> 16 & 32767) % 100;
+                draws++;
+            } while (drawn < 99 && draws <= number);
+            if (drawn >= 99 && draws == number) {
+                return first;
+            }
+        }
+        throw new IllegalStateException("no such seed");
+    }
+
     /** Promise 19. */
     private static void seek() {
         BucketTube x = Due.tube("hole 0 rim 1;hole 1 rim 1;hole 2 rim 1 slow;miss 55;");
@@ -642,6 +666,10 @@ public final class PromiseTest {
         due("19 mended", -1, () -> v.seek(5, false, 1));
         due("19 never looked at", -1, () -> v.seek(5, false, 0));
         due("19 no act", 1, () -> v.count(17));
+        // One DRAW each SECOND: seeds whose 600th or 601st DRAW is the first of 99.
+        BucketTube w = Due.tube("hole 0 rim 1;miss 99;cause thorn 0;cause kerb 0;cause spoke 0;");
+        due("19 the 600th", 600, () -> w.seek(seedShownAt(600), false, 0));
+        due("19 not the 601st", -1, () -> w.seek(seedShownAt(601), false, 0));
     }
 
     /** Promises 20 and 21. */
@@ -664,6 +692,8 @@ public final class PromiseTest {
         BucketTube y = Due.tube("clung 99 99;");
         due("20 hole's", 10, () -> y.air(0));
         due("21 none", -1, () -> y.line(500));
+        due("21 the 60th", 60, () -> y.line(18));
+        due("21 none", -1, () -> y.line(19));
         BucketTube z = Due.tube("clung 0 50;");
         due("20 none clung", 1000, () -> z.air(0));
         due("21 none clung", 0, () -> z.line(1000));
@@ -975,16 +1005,23 @@ public final class PromiseTest {
         // Seed 5 draws 55: the first SECOND shows nothing, and it goes on behind the last INCH.
         BucketTube u = Due.tube("tube 12;hand 9;hole 8 left 1;miss 56;");
         int seed = 5;
-        int seconds = 0;
         int drawn;
+        int draws = 0;
         do {
             seed = seed * 1103515245 + 12345;
             drawn = (seed >>> 16 & 32767) % 100;
-            seconds++;
+            draws++;
         } while (drawn < 56);
+        int seconds = draws;
         // One SECOND each: DIPS at 0 and 9 by turns, INCH 8 is looked at from 0 alone.
         int want = 2 * seconds - 1;
         due("36 by turns", want, () -> u.sweep(5, false, 1, 0));
+        // Twelve INCHES by six: DIPS at 0 and 6, then 0 again.
+        BucketTube t = Due.tube("tube 12;hand 6;hole 7 left 1;miss 56;");
+        due("36 by turns", 2 * seconds, () -> t.sweep(5, false, 1, 0));
+        BucketTube s = Due.tube("tube 12;hand 6;hole 7 left 1;miss 99;");
+        due("36 the 600th", 600, () -> s.sweep(seedShownAt(300), false, 1, 0));
+        due("36 not the 602nd", -1, () -> s.sweep(seedShownAt(301), false, 1, 0));
     }
 
     /** Promise 37. */
@@ -1032,6 +1069,10 @@ public final class PromiseTest {
         due("38 what they are now", 1, () -> y.enough(500));
         BucketTube z = Due.tube("hand 1;miss 99;");
         due("38 none", -1, () -> z.enough(100));
+        // Fifty SECONDS at each of twelve INCHES: 0.95 to the power of 50 is 0.0769.
+        BucketTube w = Due.tube("tube 12;hand 1;miss 95;cause valve 0;");
+        due("38 the 600th", 600, () -> w.enough(77));
+        due("38 none", -1, () -> w.enough(76));
         due("38 what one believes stays", 0, () -> z.count(17));
     }
 
